@@ -85,6 +85,26 @@ final class HoursTest {
         is("15: no MEND", x.reading(0, 1, 9) == 5 ? 1 : 0, 0);
         is("15: the TAKEN are dropped: the RULE's alone is done", x.count(4), 1);
         is("15: also when nothing was run", x.again() + x.again(), 0);
+        x.planless();
+        x.plan(5, 2, 1);
+        x.taken(1);
+        x.run(2);
+        x.again();
+        x.run(6);
+        is("15: the TAKEN that had not come are dropped too", x.now(1, 5), 0);
+        x.again();
+        Due.rule(x, 2, 1, 5, 1, 0);
+        is("15: no TEMPERATURE is ahead of the first HOUR", x.holds(1), 0);
+        // A JAM and a FLOW, then again.
+        IceOut y = drift(2, 120, 1000, 0);
+        is("15: a JAM", y.now(0, 4), 100);
+        y.again();
+        is("15: no JAM", y.now(0, 4), 0);
+        is("15: no FLOW", y.now(0, 10), 0);
+        is("15: the SHEET", y.now(0, 2), 120);
+        y.fill(0, 0, 0);
+        y.run(1);
+        is("15: CREST anew", y.crest(0, 0), 100);
     }
 
     private static void promise16() {
@@ -272,6 +292,8 @@ final class HoursTest {
         is("II d: by the SHEET of now", sheetAfterRise(1, 20, 29, 4), 0);
         is("II d: by the SHEET of now", sheetAfterRise(1, 20, 28, 4), 19);
         is("II d: no SHEET, no FLOES", sheetAfterRise(0, 0, 999, 0), 0);
+        is("II d: a SHEET of 1", sheetAfterRise(0, 1, 11, 0), 0);
+        is("II d: a SHEET of 1", sheetAfterRise(0, 1, 10, 0), 1);
         // A SHEET that comes at the HOUR of a rise is FROZEN at the LEVEL of then.
         IceOut x = new IceOut();
         x.begin(2);
@@ -314,6 +336,15 @@ final class HoursTest {
         is("II e: they jam", x.now(0, 4), 19);
         is("II e: the rest drifts", x.now(0, 3), 31);
         is("count 8", x.count(8), 50);
+        IceOut last = new IceOut();
+        last.begin(2);
+        last.cell(0, 0, 100, 1, 100);
+        last.fill(0, 99, 50);
+        last.cell(1, 4, 100, 1, 1);
+        last.fill(1, 0, 1);
+        last.act(0, 0);
+        last.run(1);
+        is("II e: the last CELL's SHEET", last.now(0, 4), 19);
         x = drift(4, 50, 99, 0);
         is("II e: a LAKE keeps them", x.now(0, 3), 50);
         is("II e: a LAKE jams not", x.now(0, 4), 0);
@@ -364,6 +395,14 @@ final class HoursTest {
         y.run(1);
         // FLOW 500 / 5.
         is("II e: 100 go", y.now(2, 3), 100);
+        // Of 250 only 200 pass a REACH, whatever its FLOW.
+        y.again();
+        y.fill(0, 2000, 100);
+        y.act(0, 0);
+        y.act(0, 1);
+        y.run(2);
+        is("II e: 200 go", y.now(2, 3), 200);
+        is("II e: 50 jam", y.now(1, 4), 50);
         // A shut GATE has no FLOW, and what there is stays FLOES.
         IceOut g = new IceOut();
         g.cell(0, 3, 1000, 1, 100);
@@ -400,6 +439,8 @@ final class HoursTest {
         for (int[] row : rows) {
             is("II f: FALL " + row[0] + " by " + row[1], jamLeft(row[0], row[1]), row[2]);
         }
+        is("II f: a JAM of 1", smallJamLeft(33), 0);
+        is("II f: a JAM of 1", smallJamLeft(32), 1);
         // In the middle: it becomes FLOES of the next CELL, behind the drifting of this HOUR.
         IceOut x = new IceOut();
         x.begin(3);
@@ -428,6 +469,21 @@ final class HoursTest {
         x.run(1);
         is("II f: 20 passed", x.now(1, 3), 0);
         is("II f: of the last one: gone", x.count(8), x.now(1, 4));
+        return x.now(1, 4);
+    }
+
+    /** As jamLeft, but of 21 FLOES 20 pass and 1 jams. */
+    private static int smallJamLeft(int fall) {
+        IceOut x = new IceOut();
+        x.begin(2);
+        x.cell(0, 4, 0, 1, 1);
+        x.cell(1, 2, 1000 + fall, 1, 100);
+        x.sea(1000);
+        x.fill(1, 150, 21);
+        x.act(0, 1);
+        x.run(1);
+        x.eye(1);
+        is("3: an EYE sees 1", x.holds(Due.rule(x, 2, 0, 3, 1, 0)), x.now(1, 4));
         return x.now(1, 4);
     }
 
@@ -481,10 +537,37 @@ final class HoursTest {
         y.run(1);
         is("III: MOVE to 0", y.now(0, 6), 0);
         is("III: done", y.count(4), 6);
+        alone();
         for (int k = 0; k < 11; k++) {
             y.act(2, 3);
         }
         y.run(2);
         is("III: BAGS to 100", y.now(3, 5), 100);
+    }
+
+    /** An ACT does what it is and nothing beside. */
+    private static void alone() {
+        for (int kind = 0; kind <= 6; kind++) {
+            IceOut x = new IceOut();
+            x.begin(2);
+            x.cell(0, 3, 300, 1, 100);
+            x.cell(1, 4, 300, 1, 1);
+            x.town(0, 70, 4000, 50);
+            x.fill(0, 1000, 60);
+            x.act(0, 0);
+            x.run(1);
+            is("III: JAM", x.now(0, 4), 30);
+            Due.weather(x, 0, new int[] {20}, new int[] {0});
+            x.run(1);
+            x.act(kind, 0);
+            x.run(1);
+            is("III: JAM behind " + kind, x.now(0, 4), kind == 1 ? 0 : 30);
+            is("III: FLOES behind " + kind, x.now(0, 3), kind == 1 ? 30 : 0);
+            is("III: BAGS behind " + kind, x.now(0, 5), kind == 2 ? 10 : 0);
+            is("III: PEOPLE behind " + kind, x.now(0, 6), kind == 5 ? 20 : 70);
+            is("III: ROOM behind " + kind, x.now(0, 7), kind == 6 ? 30 : 50);
+            is("III: GATE behind " + kind, x.now(0, 8), kind == 3 ? 1 : 0);
+            is("III: WATER behind " + kind, x.now(0, 1), kind == 6 ? 20 : 40);
+        }
     }
 }

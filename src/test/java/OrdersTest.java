@@ -17,6 +17,8 @@ final class OrdersTest {
         promise20Readings();
         promise20Others();
         promise20Words();
+        promise20Eyes();
+        promise20Cells();
         promise21();
         DUE.end();
     }
@@ -400,19 +402,52 @@ final class OrdersTest {
         is("20: the last two", holdsOf(x, 4, 0, 4, 99, 4, 99, 6, 7, 0), 1);
         is("20: the last two", holdsOf(x, 4, 0, 4, 99, 7, 4, 99, 6, 0), 0);
         is("20: eight", holdsOf(x, 4, 0, 4, 0, 4, 0, 4, 0, 4, 0, 4, 0, 4, 0, 4, 99, 8, 6, 6, 6, 6, 6, 6, 6, 0), 1);
+    }
+
+    private static void promise20Eyes() {
         // A JAM of 20: 40 of 60 FLOES pass a BEND, and it lies below the next LEVEL then.
         IceOut y = new IceOut();
         y.cell(0, 1, 300, 1, 100);
         y.fill(0, 300, 60);
         y.fill(1, 1800, 0);
         y.act(0, 0);
+        y.eye(0);
         is("20: no JAM", holdsOf(y, 3, 0, 0), 0);
+        y.eye(0);
         y.run(1);
         is("20: a JAM", y.now(0, 4), 20);
         is("20: no EYE", holdsOf(y, 3, 0, 0), 0);
         y.eye(0);
         is("20: an EYE", holdsOf(y, 3, 0, 0), 1);
         is("20: elsewhere", holdsOf(y, 3, 1, 0), 0);
+    }
+
+    /** Two GAUGES side by side: each RULE looks at its own. */
+    private static void promise20Cells() {
+        IceOut x = new IceOut();
+        x.begin(4);
+        x.cell(1, 4, 150, 1, 1);
+        x.cell(2, 4, 1000, 1, 1);
+        x.cell(3, 4, 2000, 1, 1);
+        x.gauge(1, 0);
+        x.gauge(2, 6);
+        x.run(4);
+        is("20: CELL 1 is KNOWN", holdsOf(x, 1, 1, 15, 0), 1);
+        is("20: CELL 1 is no higher", holdsOf(x, 1, 1, 16, 0), 0);
+        is("20: CELL 2 isn't KNOWN", holdsOf(x, 1, 2, 0, 0), 0);
+        x.mend(2, 1, 500);
+        is("20: CELL 2 by its MEND", holdsOf(x, 1, 2, 50, 0), 1);
+        is("20: CELL 2 by its MEND", holdsOf(x, 1, 2, 51, 0), 0);
+        is("20: no second one", holdsOf(x, 2, 2, 0, 0), 0);
+        x.mend(2, 3, 600);
+        is("20: the next older in CELL 2", holdsOf(x, 2, 2, 100, 0), 1);
+        is("20: the next older in CELL 2", holdsOf(x, 2, 2, 101, 0), 0);
+        is("20: CELL 1 stays", holdsOf(x, 2, 1, 1, 0), 0);
+        x.run(3);
+        is("20: HOUR 2 is KNOWN, HOUR 3 was told", holdsOf(x, 2, 2, 101, 0), 0);
+        x.run(3);
+        is("20: HOUR 5 is KNOWN, HOUR 4 too", holdsOf(x, 2, 2, 1, 0), 0);
+        is("20: HOUR 5 is KNOWN", holdsOf(x, 1, 2, 100, 0), 1);
     }
 
     private static void promise21() {

@@ -78,7 +78,7 @@ final class StartTest {
         x.mark(0, 1, 1);
         x.act(2, 0);
         Due.rule(x, 2, 0, 4, 3, 0);
-        Due.weather(x, 0, new int[] {500}, new int[] {-20});
+        Due.weather(x, 0, new int[] {500, 600}, new int[] {-20, 9});
         x.tape(0, 2, 3);
         x.put(0, 9, 9);
         x.run(3);
@@ -99,7 +99,15 @@ final class StartTest {
         is("2: BED", x.now(3, 0), 0);
         is("2: no CREST", x.crest(0, 0), IceOut.NONE);
         is("2: TAPES stay", x.at(0, 2), 0);
+        x.town(1, 5, 200, 0);
+        x.begin(4);
+        x.fill(1, 99, 0);
+        x.town(2, 5, 100, 0);
+        is("2: BANK", x.town(1, 5, 4000, 0) + x.run(2), 5);
+        x.begin(4);
+        x.fill(3, 0, 50);
         x.run(2);
+        is("2: no thaw, no frost", x.now(3, 2), 50);
         is("2: WEATHER as at first", x.now(0, 1), 0);
         is("2: no frost", x.now(0, 2), 0);
         is("2: no BAG waits", x.now(0, 5), 0);

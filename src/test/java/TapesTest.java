@@ -9,6 +9,8 @@ final class TapesTest {
         promise31Own();
         promise32();
         promise32Whole();
+        promise32Ice();
+        promise32Book();
         promise32Unable();
         promise33();
         promise34();
@@ -160,6 +162,120 @@ final class TapesTest {
         is("32: the RULES came again", x.came(1), 5);
     }
 
+    /** A STATE with something of everything, and THE RUN behind it with nothing of that. */
+    private static void promise32Ice() {
+        IceOut x = new IceOut();
+        x.begin(4);
+        x.cell(0, 2, 1000, 1, 100);
+        x.cell(1, 4, 1000, 1, 1);
+        x.cell(2, 3, 1100, 5, 20);
+        x.cell(3, 4, 2000, 1, 1);
+        x.fill(0, 1000, 120);
+        x.fill(2, 50, 200);
+        x.fill(3, 10, 60);
+        x.town(2, 120, 500, 300);
+        x.act(0, 0);
+        x.act(3, 2);
+        x.act(6, 2);
+        x.act(5, 2);
+        x.act(2, 2);
+        x.crews(6);
+        x.run(1);
+        is("32: HARM", x.keep(2) + x.count(2), 1 + 70);
+        int[][] then = {
+            {1000, 0, 0, 0, 100, 0, 0, 0, 0, -2, 1000}, {2000, 1000, 0, 20, 0, 0, 0, 0, 0, -2, 0},
+            {1100, 0, 200, 0, 0, 10, 70, 250, 1, 1110, 0}, {2000, 0, 60, 0, 0, 0, 0, 0, 0, 2010, 10},
+        };
+        lookAt(x, "then", then);
+        Due.weather(x, 0, new int[] {500}, new int[] {30});
+        x.act(1, 0);
+        x.act(4, 2);
+        x.act(0, 2);
+        x.act(0, 3);
+        x.run(30);
+        x.begin(4);
+        is("32: begin", x.back(2), IceOut.UNABLE);
+        IceOut y = new IceOut();
+        y.begin(4);
+        y.cell(0, 2, 1000, 1, 100);
+        y.cell(1, 4, 1000, 1, 1);
+        y.cell(2, 3, 1100, 5, 20);
+        y.cell(3, 4, 2000, 1, 1);
+        y.fill(0, 1000, 120);
+        y.fill(2, 50, 200);
+        y.fill(3, 10, 60);
+        y.town(2, 120, 500, 300);
+        int[] acts = {0, 3, 6, 5, 2};
+        for (int act : acts) {
+            y.act(act, act == 0 ? 0 : 2);
+        }
+        y.crews(6);
+        y.run(1);
+        y.keep(2);
+        Due.weather(y, 0, new int[] {500}, new int[] {30});
+        y.act(1, 0);
+        y.act(4, 2);
+        y.act(0, 2);
+        y.act(0, 3);
+        y.run(30);
+        is("32: CLEAR, OPEN, CUT are over", y.now(0, 4) * y.now(2, 8) * y.now(2, 2) * y.now(3, 2), 0);
+        is("32: back", y.back(2), 1);
+        lookAt(y, "back", then);
+        is("32: CREST", y.crest(0, 0), 1000);
+        is("32: CREST's HOUR", y.crest(0, 1), 1);
+        is("32: HARM", y.count(2), 70);
+        is("32: done", y.count(4), 5);
+        is("32: none waits", y.count(3), 0);
+        // By a TRIAL it goes on from here: 11 HOURS above the BANK with 70 PEOPLE.
+        is("32: a TRIAL", y.trial(0, 1, 11), 770);
+    }
+
+    private static void lookAt(IceOut x, String when, int[][] due) {
+        for (int i = 0; i < due.length; i++) {
+            for (int what = 0; what <= 10; what++) {
+                is("32: " + when + " now(" + i + ", " + what + ")", x.now(i, what), due[i][what]);
+            }
+        }
+    }
+
+    /** Readings and MENDS are THE RUN's: what was told behind the STATE is gone with back(). */
+    private static void promise32Book() {
+        IceOut x = new IceOut();
+        x.gauge(2, 2);
+        Due.rule(x, 2, 0, 1, 2, 9, 0);
+        Due.rule(x, 2, 0, 4, 99, 1, 2, 50, 6, 0);
+        x.run(3);
+        x.mend(2, 1, 600);
+        x.mend(2, 2, 700);
+        x.run(1);
+        x.mend(2, 1, 800);
+        x.keep(4);
+        x.again();
+        x.gauge(2, -1);
+        x.run(9);
+        for (int k = 0; k < 5; k++) {
+            x.mend(3, 7, k);
+            x.mend(2, 2, 3);
+        }
+        is("32: back", x.back(4), 4);
+        is("32: the first", x.reading(2, 1, 3), 100);
+        is("32: its MEND", x.reading(2, 1, 4), 600);
+        is("32: its second MEND", x.reading(2, 1, 5), 800);
+        is("32: a MEND of HOUR 2", x.reading(2, 2, 4), 700);
+        is("32: HOUR 2 as it was KNOWN", x.reading(2, 2, 3), IceOut.NONE);
+        is("32: HOUR 3", x.reading(2, 3, 5), 100);
+        is("32: HOUR 4", x.reading(2, 4, 6), 100);
+        is("32: CELL 3 has none", x.reading(3, 4, 99), IceOut.NONE);
+        is("32: the RULE came", x.came(0), 3);
+        x.ruleless();
+        is("32: HOUR 3 is the newest KNOWN", x.holds(Due.rule(x, 2, 0, 1, 2, 11, 0)), 0);
+        is("32: HOUR 3 is the newest KNOWN", x.holds(Due.rule(x, 2, 0, 1, 2, 10, 0)), 1);
+        for (int k = 4; k <= 40; k++) {
+            is("32: MENDS", x.mend(2, 1, k), 1);
+        }
+        is("32: three were told since the START", x.mend(2, 1, 1), IceOut.FULL);
+    }
+
     private static int[] look(IceOut x) {
         int[] all = new int[100];
         int k = 0;
@@ -230,13 +346,16 @@ final class TapesTest {
         is("33: NOTHING", x.toss(0), IceOut.NOTHING);
         x.tape(0, 4, 1);
         is("33: CAST", x.toss(0), IceOut.CAST);
-        x.town(0, 3, 0, 0);
+        x.town(0, 1, 0, 0);
         x.keep(1);
         is("33: THROWN", x.toss(1), IceOut.THROWN);
         is("33: counted", x.count(9), 3);
-        x.run(5);
+        x.run(1);
         x.keep(2);
-        x.run(5);
+        is("33: its HARM", x.toss(2), 1);
+        x.run(14);
+        x.keep(2);
+        x.run(15);
         is("33: its HARM", x.toss(2), 15);
         is("33: THE RUN goes on", x.count(2), 30);
         is("33: THROWN still", x.toss(1), IceOut.THROWN);

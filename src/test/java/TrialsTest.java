@@ -328,8 +328,23 @@ final class TrialsTest {
         is("27: 24 came, 4 are done", x.count(3), 20);
         is("27: and there is room again", x.taken(255), 8);
         x.again();
-        x.run(40);
+        x.run(120);
         is("27: again drops them", x.count(4), 0);
+        IceOut y = new IceOut();
+        y.plan(9, 2, 3);
+        y.plan(4, 5, 2);
+        y.plan(7, 2, 1);
+        y.plan(2, 5, 0);
+        y.town(0, 60, 4000, 0);
+        y.town(2, 60, 4000, 0);
+        y.taken(15);
+        y.run(3);
+        is("27: HOUR 2", y.now(0, 6), 10);
+        y.run(3);
+        is("27: HOUR 4", y.now(2, 6), 10);
+        y.run(6);
+        is("27: HOUR 9", y.now(3, 5), 10);
+        is("27: HOUR 7", y.now(1, 5), 10);
     }
 
     private static void promise27Order() {
