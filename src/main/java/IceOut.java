@@ -24,6 +24,7 @@ public final class IceOut {
     private static final int REACH = 0, GATE = 3, LAKE = 4;
     private static final int CUT = 0, CLEAR = 1, BAG = 2, SHUT = 3, OPEN = 4, MOVE = 5, LET = 6;
     private static final int EMPTY = 0, BYTES = 1, SHORTS = 2, INTS = 3, LONGS = 4, KEPT = 5;
+    private static final int NO_BOUND = 0x7FFFFFFF;
     private static final int NOT_YET = -2, NO_SHEET = -2, FAULT = -100, SOUND = -1;
 
     private final River river;
@@ -247,7 +248,7 @@ public final class IceOut {
             case 5: return live.bags[i];
             case 6: return live.people[i];
             case 7: return live.room[i];
-            case 8: return live.shut[i] ? 1 : 0;
+            case 8: return live.shut[i];
             case 9: return live.sheet[i] > 0 ? live.frozen[i] : NO_SHEET;
             case 10: return live.flow[i];
             default: return NONE;
@@ -313,7 +314,7 @@ public final class IceOut {
         if (!hasSet(set) || !hasWeather(w) || !isLength(hours)) {
             return NONE;
         }
-        return mostHarm(set, w, w + 1, hours, Integer.MAX_VALUE);
+        return mostHarm(set, w, w + 1, hours, NO_BOUND);
     }
 
     public int best(int n, int hours) {
@@ -321,7 +322,7 @@ public final class IceOut {
             return NONE;
         }
         int best = 0;
-        int least = Integer.MAX_VALUE;
+        int least = NO_BOUND;
         // An ACT behind the last HOUR never comes: the set without it does the same with fewer.
         int late = plan.maskBehind(hours);
         for (int acts = 0; acts <= plan.size; acts++) {
@@ -342,7 +343,7 @@ public final class IceOut {
         if (!hasSet(set) || !isWithin(n, 1, WEATHERS) || !isLength(hours)) {
             return NONE;
         }
-        return mostHarm(set, 0, n, hours, Integer.MAX_VALUE);
+        return mostHarm(set, 0, n, hours, NO_BOUND);
     }
 
     public int taken(int set) {
@@ -913,7 +914,8 @@ public final class IceOut {
         final int[] bags = new int[MOST_CELLS];
         final int[] people = new int[MOST_CELLS];
         final int[] room = new int[MOST_CELLS];
-        final boolean[] shut = new boolean[MOST_CELLS];
+        /** 1, if it is a GATE that is shut. */
+        final int[] shut = new int[MOST_CELLS];
         final int[] crest = new int[MOST_CELLS];
         final int[] crestHour = new int[MOST_CELLS];
         final int[] came = new int[MOST_RULES];
@@ -951,7 +953,7 @@ public final class IceOut {
             bags[i] = 0;
             people[i] = river.people[i];
             room[i] = river.room[i];
-            shut[i] = false;
+            shut[i] = 0;
             crest[i] = NONE;
             crestHour[i] = 0;
         }
@@ -1116,7 +1118,7 @@ public final class IceOut {
                 case SHUT:
                 case OPEN:
                     // The CELL may have been told anew, as no GATE, while the ACT waited.
-                    s.shut[i] = kind == SHUT && river.kind[i] == GATE;
+                    s.shut[i] = kind == SHUT && river.kind[i] == GATE ? 1 : 0;
                     break;
                 case MOVE:
                     s.people[i] = Math.max(0, s.people[i] - 50);
@@ -1156,7 +1158,7 @@ public final class IceOut {
 
         private int flowOf(State s, int i) {
             int fall = level[i] - level[i + 1];
-            if (fall <= 0 || s.shut[i]) {
+            if (fall <= 0 || s.shut[i] == 1) {
                 return 0;
             }
             int brake = 10 + s.jam[i] + (s.sheet[i] > 0 ? 20 : 0);
@@ -1205,7 +1207,7 @@ public final class IceOut {
 
         private int mostPassing(State s, int i) {
             boolean covered = i + 1 < river.cells && s.sheet[i + 1] > 0;
-            return covered || s.shut[i] ? 0 : MOST_FLOES[river.kind[i]];
+            return covered || s.shut[i] == 1 ? 0 : MOST_FLOES[river.kind[i]];
         }
 
         private void giveBelow(State s, int i, int ice) {

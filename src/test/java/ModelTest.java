@@ -24,7 +24,6 @@ final class ModelTest {
             // A drawing in which nothing happens would prove nothing.
             test.due.is("runs enough with: " + what[k] + " (" + test.seen[k] + ")", test.seen[k] > 40 ? 1 : 0, 1);
         }
-        System.out.println(java.util.Arrays.toString(test.seen));
         test.due.end();
     }
 

@@ -443,6 +443,9 @@ final class OrdersTest {
         is("20: the next older in CELL 2", holdsOf(x, 2, 2, 100, 0), 1);
         is("20: the next older in CELL 2", holdsOf(x, 2, 2, 101, 0), 0);
         is("20: CELL 1 stays", holdsOf(x, 2, 1, 1, 0), 0);
+        x.mend(3, 2, 900);
+        is("20: CELL 3 has but a MEND", holdsOf(x, 1, 3, 90, 0), 1);
+        is("20: CELL 3 has but a MEND", holdsOf(x, 1, 3, 91, 0), 0);
         x.run(3);
         is("20: HOUR 2 is KNOWN, HOUR 3 was told", holdsOf(x, 2, 2, 101, 0), 0);
         x.run(3);

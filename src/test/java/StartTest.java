@@ -108,6 +108,7 @@ final class StartTest {
         x.fill(3, 0, 50);
         x.run(2);
         is("2: no thaw, no frost", x.now(3, 2), 50);
+        is("2: TEMPERATURE 0", x.holds(Due.rule(x, 0, 0, 5, 1, 0)), 0);
         is("2: WEATHER as at first", x.now(0, 1), 0);
         is("2: no frost", x.now(0, 2), 0);
         is("2: no BAG waits", x.now(0, 5), 0);

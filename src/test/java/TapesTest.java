@@ -164,24 +164,8 @@ final class TapesTest {
 
     /** A STATE with something of everything, and THE RUN behind it with nothing of that. */
     private static void promise32Ice() {
-        IceOut x = new IceOut();
-        x.begin(4);
-        x.cell(0, 2, 1000, 1, 100);
-        x.cell(1, 4, 1000, 1, 1);
-        x.cell(2, 3, 1100, 5, 20);
-        x.cell(3, 4, 2000, 1, 1);
-        x.fill(0, 1000, 120);
-        x.fill(2, 50, 200);
-        x.fill(3, 10, 60);
-        x.town(2, 120, 500, 300);
-        x.act(0, 0);
-        x.act(3, 2);
-        x.act(6, 2);
-        x.act(5, 2);
-        x.act(2, 2);
-        x.crews(6);
-        x.run(1);
-        is("32: HARM", x.keep(2) + x.count(2), 1 + 70);
+        IceOut x = icy();
+        is("32: keep", x.keep(2), 1);
         int[][] then = {
             {1000, 0, 0, 0, 100, 0, 0, 0, 0, -2, 1000}, {2000, 1000, 0, 20, 0, 0, 0, 0, 0, -2, 0},
             {1100, 0, 200, 0, 0, 10, 70, 250, 1, 1110, 0}, {2000, 0, 60, 0, 0, 0, 0, 0, 0, 2010, 10},
@@ -192,42 +176,46 @@ final class TapesTest {
         x.act(4, 2);
         x.act(0, 2);
         x.act(0, 3);
-        x.run(30);
+        x.run(29);
+        x.act(6, 2);
+        x.run(1);
+        Due.weather(x, 0, new int[] {500}, new int[] {-30});
+        x.run(9);
+        is("32: other ROOM", x.now(2, 7) < 250 ? 1 : 0, 1);
+        is("32: other FROZEN", x.now(3, 9) == 2010 ? 1 : 0, 0);
+        is("32: no JAM of 100", x.now(0, 4) == 100 ? 1 : 0, 0);
+        is("32: open", x.now(2, 8), 0);
+        is("32: back", x.back(2), 1);
+        lookAt(x, "back", then);
+        is("32: CREST", x.crest(0, 0), 1000);
+        is("32: CREST's HOUR", x.crest(0, 1), 1);
+        is("32: HARM", x.count(2), 70);
+        is("32: done", x.count(4), 5);
+        is("32: none waits", x.count(3), 0);
+        // By a TRIAL it goes on from here: 11 HOURS above the BANK with 70 PEOPLE.
+        is("32: a TRIAL", x.trial(0, 1, 11), 770);
         x.begin(4);
         is("32: begin", x.back(2), IceOut.UNABLE);
-        IceOut y = new IceOut();
-        y.begin(4);
-        y.cell(0, 2, 1000, 1, 100);
-        y.cell(1, 4, 1000, 1, 1);
-        y.cell(2, 3, 1100, 5, 20);
-        y.cell(3, 4, 2000, 1, 1);
-        y.fill(0, 1000, 120);
-        y.fill(2, 50, 200);
-        y.fill(3, 10, 60);
-        y.town(2, 120, 500, 300);
+    }
+
+    /** JAM, FLOES, SHEETS, a shut GATE, BAGS, a FIELD and a town, an HOUR behind the START. */
+    private static IceOut icy() {
+        IceOut x = new IceOut();
+        x.cell(0, 2, 1000, 1, 100);
+        x.cell(1, 4, 1000, 1, 1);
+        x.cell(2, 3, 1100, 5, 20);
+        x.cell(3, 4, 2000, 1, 1);
+        x.fill(0, 1000, 120);
+        x.fill(2, 50, 200);
+        x.fill(3, 10, 60);
+        x.town(2, 120, 500, 300);
         int[] acts = {0, 3, 6, 5, 2};
         for (int act : acts) {
-            y.act(act, act == 0 ? 0 : 2);
+            x.act(act, act == 0 ? 0 : 2);
         }
-        y.crews(6);
-        y.run(1);
-        y.keep(2);
-        Due.weather(y, 0, new int[] {500}, new int[] {30});
-        y.act(1, 0);
-        y.act(4, 2);
-        y.act(0, 2);
-        y.act(0, 3);
-        y.run(30);
-        is("32: CLEAR, OPEN, CUT are over", y.now(0, 4) * y.now(2, 8) * y.now(2, 2) * y.now(3, 2), 0);
-        is("32: back", y.back(2), 1);
-        lookAt(y, "back", then);
-        is("32: CREST", y.crest(0, 0), 1000);
-        is("32: CREST's HOUR", y.crest(0, 1), 1);
-        is("32: HARM", y.count(2), 70);
-        is("32: done", y.count(4), 5);
-        is("32: none waits", y.count(3), 0);
-        // By a TRIAL it goes on from here: 11 HOURS above the BANK with 70 PEOPLE.
-        is("32: a TRIAL", y.trial(0, 1, 11), 770);
+        x.crews(6);
+        x.run(1);
+        return x;
     }
 
     private static void lookAt(IceOut x, String when, int[][] due) {

@@ -226,6 +226,9 @@ final class TrialsTest {
         Due.weather(x, 1, new int[] {9999}, new int[] {0});
         is("25: by the worst of two", x.best(2, 4) & 12, 12);
         is("25: by the first alone", x.best(1, 4), 2);
+        x.run(20);
+        is("25: HARM of before counts nothing", x.best(1, 4), 2);
+        is("25: HARM of before counts nothing", x.best(2, 4) & 12, 12);
         // Eight ACTS, each sparing 50 PEOPLE of 400.
         IceOut y = new IceOut();
         y.crews(6);
