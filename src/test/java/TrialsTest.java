@@ -271,6 +271,17 @@ final class TrialsTest {
         is("25: two BAGS or one MOVE: both spare all", z.best(1, 5), 2);
         z.town(0, 50, 285, 0);
         is("25: fewer before the least mask", z.best(1, 5), 8);
+        // Far on in a RUN without HARM: a TRIAL is measured by its own HARM, not by its HOURS.
+        IceOut far = new IceOut();
+        far.cell(1, 4, 2000, 1, 1);
+        far.town(0, 1, 300, 0);
+        Due.weather(far, 1, new int[] {10}, new int[] {0});
+        far.plan(1, 2, 1);
+        far.plan(2, 2, 0);
+        far.run(50);
+        is("25: HARM 5 without ACTS", far.worst(0, 2, 5), 5);
+        is("25: HARM 1 by a BAG at the second HOUR", far.worst(2, 2, 5), 1);
+        is("25: the BAG where it helps", far.best(2, 5), 2);
     }
 
     private static void promise26() {
