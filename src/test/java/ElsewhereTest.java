@@ -21,6 +21,8 @@ final class ElsewhereTest {
         rulesOfOtherCells();
         readingsBehindBack();
         statesWithoutHarm();
+        takenByStates();
+        takenInTheFirstTrial();
         DUE.end();
     }
 
@@ -315,5 +317,41 @@ final class ElsewhereTest {
         x.keep(0);
         is("33: HOURS without HARM", x.toss(0), IceOut.THROWN);
         is("33: counted", x.count(9), 1);
+    }
+
+    /** The HOURS of ACTS TAKEN are the STATE's, whatever was TAKEN behind it. */
+    private static void takenByStates() {
+        IceOut x = new IceOut();
+        x.plan(3, 2, 0);
+        x.plan(5, 2, 1);
+        x.plan(9, 2, 2);
+        x.taken(3);
+        x.keep(0);
+        x.again();
+        x.taken(4);
+        x.keep(1);
+        is("32: back", x.back(0), 0);
+        int[] hours = {0, 0, 10, 10, 20, 20, 20, 20, 20};
+        for (int h = 1; h <= hours.length; h++) {
+            x.run(1);
+            is("27: BAGS by HOUR " + h, x.now(0, 5) + x.now(1, 5) + x.now(2, 5), hours[h - 1]);
+        }
+        is("32: back", x.back(1), 0);
+        x.run(8);
+        is("27: none of the other STATE's", x.count(4), 0);
+        x.run(1);
+        is("27: at HOUR 9", x.now(2, 5), 10);
+    }
+
+    private static void takenInTheFirstTrial() {
+        IceOut x = new IceOut();
+        x.town(0, 50, 0, 0);
+        x.plan(2, 5, 0);
+        x.taken(1);
+        is("24: the ACT TAKEN comes at HOUR 2 of the first TRIAL", x.trial(0, 0, 4), 50);
+        IceOut y = new IceOut();
+        y.town(0, 50, 0, 0);
+        y.plan(2, 5, 0);
+        is("24: the PLAN's too", y.trial(1, 0, 4), 50);
     }
 }
