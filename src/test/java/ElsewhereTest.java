@@ -13,6 +13,7 @@ final class ElsewhereTest {
             againForgetsAll(n);
         }
         gatesEverywhere();
+        floesBesideShutGates();
         jamsEverywhere();
         actsEverywhere();
         jamsLetGoEverywhere();
@@ -122,6 +123,23 @@ final class ElsewhereTest {
         }
     }
 
+    /** A GATE that is shut holds its own FLOES alone: 19 of a REACH's 50 pass, wherever it lies. */
+    private static void floesBesideShutGates() {
+        for (int at = 0; at < R; at++) {
+            for (int shut = 0; shut < R; shut++) {
+                if (shut != at) {
+                    IceOut x = lakes();
+                    x.cell(shut, 3, 1000, 1, 1);
+                    x.act(3, shut);
+                    letIceGo(x, at);
+                    is("II e: JAM of CELL " + at + " beside GATE " + shut, x.now(at, 4), 0);
+                    is("II e: FLOES of CELL " + at + " beside GATE " + shut, x.now(at, 3), 31);
+                    is("II e: in all, beside GATE " + shut, x.count(8), at == R - 1 ? 31 : 50);
+                }
+            }
+        }
+    }
+
     /** LAKES at 1000; a REACH over a SHEET below it sends 99 WATER, and 19 of its 50 FLOES jam. */
     private static void jamsEverywhere() {
         for (int at = 0; at < R - 1; at++) {
@@ -150,18 +168,27 @@ final class ElsewhereTest {
     }
 
     private static IceOut jammed(int at) {
+        IceOut x = lakes();
+        x.fill(at + 1, 0, 1);
+        letIceGo(x, at);
+        return x;
+    }
+
+    private static IceOut lakes() {
         IceOut x = new IceOut();
         x.begin(R);
         x.sea(1000);
         for (int i = 0; i < R; i++) {
             x.cell(i, 4, 1000, 1, 1);
         }
+        return x;
+    }
+
+    private static void letIceGo(IceOut x, int at) {
         x.cell(at, 0, 1100, 1, 100);
         x.fill(at, 99, 50);
-        x.fill(at + 1, 0, 1);
         x.act(0, at);
         x.run(1);
-        return x;
     }
 
     /** Each ACT in each CELL changes that one alone. */
